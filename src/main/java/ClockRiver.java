@@ -104,6 +104,14 @@ public final class ClockRiver {
     private static final int W_END = 25;
     private static final int W_STOP = 26;
 
+    /** What else than such a word a TOKEN is. */
+    private static final int NAME = 27;
+    private static final int LONG_WORD = 28;
+    private static final int NUMBER = 29;
+    private static final int SIGN = 30;
+    private static final int NO_TOKEN = 31;
+    private static final int AT_END = 32;
+
     private int latestStatus;
     private long latestTop;
     private long latestBottom;
@@ -225,9 +233,7 @@ public final class ClockRiver {
         }
         tape.begin(n);
         River told = ahead.spare();
-        boolean taken = riverReader.readInto(tape, told);
-        tape.empty();
-        if (!taken) {
+        if (!riverReader.readInto(tape, told)) {
             return refuse(FAULTY);
         }
         now.copyFrom(told);
@@ -240,9 +246,7 @@ public final class ClockRiver {
             return refuse(BAD_NUMBER);
         }
         tape.begin(n);
-        boolean taken = weeksReader.readFor(tape, now);
-        tape.empty();
-        if (!taken) {
+        if (!weeksReader.readFor(tape, now)) {
             return refuse(FAULTY);
         }
         plan.copyFrom(weeksReader.told);
@@ -291,7 +295,7 @@ public final class ClockRiver {
             case 2:
                 return give(now.reaches.holds[reach]);
             case 3:
-                return give(now.reaches.passable(reach));
+                return give(Math.min(now.reaches.holds[reach], now.reaches.gate[reach]));
             case 4:
                 return give(now.mills.countAt(reach));
             default:
@@ -412,7 +416,8 @@ public final class ClockRiver {
             return refuse(CANNOT_BE);
         }
         now.reaches.holds[reach] += much;
-        now.waters[FLOODED] += now.reaches.spillAt(reach);
+        // no other REACH is above its BANK
+        now.waters[FLOODED] += now.reaches.spill();
         return give(now.reaches.holds[reach]);
     }
 
@@ -871,32 +876,28 @@ public final class ClockRiver {
         }
     }
 
-    /** The bytes fed so far, and the TOKEN that is looked at while a text of them is read. */
+    /** The bytes fed so far, and the TOKENS of the text that is read. */
     private static final class Tape {
-        static final int AT_END = 0;
-        static final int NO_TOKEN = 1;
-        static final int WORD = 2;
-        static final int NUMBER = 3;
-        static final int SIGN = 4;
         static final long NO_NAME = 0;
-        static final int LONGEST_NAME = 8;
-        static final int LONGEST_NUMBER = 4;
+        private static final int LONGEST_NAME = 8;
+        private static final int LONGEST_NUMBER = 4;
 
         final byte[] bytes = new byte[LONGEST_RIVER];
         int fed;
         int fault = NONE;
         int faultPlace = NONE;
-        /** What the TOKEN is, where it begins; of a WORD its number in WORDS, its letters as one number. */
+        /** Of the TOKEN that is looked at: a WORD's number in WORDS, or what else it is. */
         int kind;
-        int start;
-        int word;
-        long name;
-        int sign;
+        /** A NAME's letters as one number, a NUMBER, a SIGN. */
+        long value;
         /** The NUMBER that was taken latest. */
         int taken;
-        private int number;
-        private int length;
-        private int next;
+        private int at;
+        private int tokens;
+        /** A TOKEN has a byte at least, and the text's end is one more. */
+        private final int[] kinds = new int[LONGEST_RIVER + 1];
+        private final int[] starts = new int[LONGEST_RIVER + 1];
+        private final long[] values = new long[LONGEST_RIVER + 1];
 
         void append(int four) {
             for (int shift = 24; shift >= 0 && fed < LONGEST_RIVER; shift -= 8) {
@@ -905,42 +906,33 @@ public final class ClockRiver {
             }
         }
 
-        void empty() {
-            fed = 0;
-        }
-
+        /** Takes the first n bytes for a text, looks at its first TOKEN; the tape is empty then. */
         void begin(int n) {
-            length = Math.min(n, fed);
-            next = 0;
+            int length = Math.min(n, fed);
+            int place = 0;
+            tokens = 0;
+            for (int i = 0; i <= length && place <= length; i++) {
+                place = addToken(place, length);
+            }
+            fed = 0;
             fault = 0;
             faultPlace = NONE;
-            advance();
+            at = 0;
+            kind = kinds[0];
+            value = values[0];
         }
 
         void advance() {
-            kind = AT_END;
-            word = NONE;
-            name = NO_NAME;
-            start = next;
-            while (start < length && isBlank(bytes[start])) {
-                start++;
-            }
-            next = start;
-            if (start >= length) {
-                return;
-            }
-            if (isLetter(bytes[start])) {
-                readWord();
-            } else if (isDigit(bytes[start])) {
-                readNumber();
-            } else {
-                readSign();
+            if (at < tokens - 1) {
+                at++;
+                kind = kinds[at];
+                value = values[at];
             }
         }
 
         boolean fail(int why) {
             fault = why;
-            faultPlace = start;
+            faultPlace = starts[at];
             return false;
         }
 
@@ -949,15 +941,15 @@ public final class ClockRiver {
         }
 
         boolean takeWord(int wanted) {
-            if (word != wanted) {
+            if (kind != wanted) {
                 return failToStand();
             }
             advance();
             return true;
         }
 
-        boolean takeSign(int wanted) {
-            if (kind != SIGN || sign != wanted) {
+        boolean takeEnd() {
+            if (kind != SIGN || value != ';') {
                 return failToStand();
             }
             advance();
@@ -968,74 +960,96 @@ public final class ClockRiver {
             if (kind != NUMBER) {
                 return failToStand();
             }
-            if (number < least || number > most) {
+            if (value < least || value > most) {
                 return fail(FAULT_NUMBER);
             }
-            taken = number;
+            taken = (int) value;
             advance();
             return true;
         }
 
-        boolean isName() {
-            return kind == WORD && word == NONE && name != NO_NAME;
+        /** The place behind the TOKEN; beyond the length behind the last one, as what follows NO_TOKEN is never read. */
+        private int addToken(int from, int length) {
+            int start = from;
+            while (start < length && isBlank(bytes[start])) {
+                start++;
+            }
+            starts[tokens] = start;
+            values[tokens] = 0;
+            int end = length + 1;
+            if (start >= length) {
+                kinds[tokens] = AT_END;
+            } else if (isLetter(bytes[start])) {
+                end = addWord(start, length);
+            } else if (isDigit(bytes[start])) {
+                end = addNumber(start, length);
+            } else {
+                end = addSign(start, length);
+            }
+            tokens++;
+            return end;
         }
 
-        private void readWord() {
-            kind = WORD;
-            while (next < length && isLetter(bytes[next])) {
-                next++;
+        private int addWord(int start, int length) {
+            int end = start;
+            while (end < length && isLetter(bytes[end])) {
+                end++;
             }
-            if (next - start > LONGEST_NAME) {
-                return;
+            kinds[tokens] = kindOfWord(start, end);
+            if (end - start <= LONGEST_NAME) {
+                for (int i = start; i < end; i++) {
+                    values[tokens] = values[tokens] * 256 + bytes[i];
+                }
             }
-            for (int i = start; i < next; i++) {
-                name = name * 256 + bytes[i];
-            }
-            word = numberOfWord();
+            return end;
         }
 
-        private int numberOfWord() {
-            int count = 0;
+        private int kindOfWord(int start, int end) {
+            if (end - start > LONGEST_NAME) {
+                return LONG_WORD;
+            }
+            int number = 0;
             int from = 0;
             for (int i = 0; i < WORDS.length(); i++) {
                 if (WORDS.charAt(i) == ' ') {
-                    if (isTokenLike(from, i)) {
-                        return count;
+                    if (i - from == end - start && isLike(start, end, from)) {
+                        return number;
                     }
-                    count++;
+                    number++;
                     from = i + 1;
                 }
             }
-            return NONE;
+            return NAME;
         }
 
-        private boolean isTokenLike(int from, int to) {
-            if (to - from != next - start) {
-                return false;
-            }
-            for (int i = from; i < to; i++) {
-                if (WORDS.charAt(i) != bytes[start + i - from]) {
+        private boolean isLike(int start, int end, int from) {
+            for (int i = start; i < end; i++) {
+                if (bytes[i] != WORDS.charAt(from + i - start)) {
                     return false;
                 }
             }
             return true;
         }
 
-        private void readNumber() {
-            number = 0;
-            while (next < length && isDigit(bytes[next])) {
-                if (next - start < LONGEST_NUMBER) {
-                    number = number * 10 + bytes[next] - '0';
+        private int addNumber(int start, int length) {
+            int end = start;
+            while (end < length && isDigit(bytes[end])) {
+                if (end - start < LONGEST_NUMBER) {
+                    values[tokens] = values[tokens] * 10 + bytes[end] - '0';
                 }
-                next++;
+                end++;
             }
-            kind = next - start > LONGEST_NUMBER ? NO_TOKEN : NUMBER;
+            boolean fits = end - start <= LONGEST_NUMBER;
+            kinds[tokens] = fits ? NUMBER : NO_TOKEN;
+            return fits ? end : length + 1;
         }
 
-        private void readSign() {
-            sign = bytes[start];
-            kind = sign == ';' || sign == '<' || sign == '>' || sign == '=' ? SIGN : NO_TOKEN;
-            next++;
+        private int addSign(int start, int length) {
+            int sign = bytes[start];
+            boolean isSign = sign == ';' || sign == '<' || sign == '>' || sign == '=';
+            kinds[tokens] = isSign ? SIGN : NO_TOKEN;
+            values[tokens] = sign;
+            return isSign ? start + 1 : length + 1;
         }
 
         private static boolean isBlank(int b) {
@@ -1249,10 +1263,6 @@ public final class ClockRiver {
             System.arraycopy(other.holds, 0, holds, 0, count);
         }
 
-        int passable(int reach) {
-            return Math.min(holds[reach], gate[reach]);
-        }
-
         int allHeld() {
             int sum = 0;
             for (int i = 0; i < count; i++) {
@@ -1263,7 +1273,7 @@ public final class ClockRiver {
 
         void letPass() {
             for (int i = 0; i < count; i++) {
-                passed[i] = passable(i);
+                passed[i] = Math.min(holds[i], gate[i]);
             }
         }
 
@@ -1276,16 +1286,11 @@ public final class ClockRiver {
         int spill() {
             int sum = 0;
             for (int i = 0; i < count; i++) {
-                spilt[i] = spillAt(i);
+                spilt[i] = Math.max(0, holds[i] - bank[i]);
+                holds[i] -= spilt[i];
                 sum += spilt[i];
             }
             return sum;
-        }
-
-        int spillAt(int reach) {
-            int much = Math.max(0, holds[reach] - bank[reach]);
-            holds[reach] -= much;
-            return much;
         }
     }
 
@@ -1423,7 +1428,7 @@ public final class ClockRiver {
             settingsTold = 0;
             told.clear();
             // a PART has at least one byte
-            for (int i = 0; i < LONGEST_RIVER && tape.kind != Tape.AT_END; i++) {
+            for (int i = 0; i < LONGEST_RIVER && tape.kind != AT_END; i++) {
                 if (!readPart()) {
                     return false;
                 }
@@ -1432,7 +1437,7 @@ public final class ClockRiver {
         }
 
         private boolean readPart() {
-            switch (tape.word) {
+            switch (tape.kind) {
                 case W_TURNS:
                     return readSetting(MOST_TURNS);
                 case W_SLACK:
@@ -1453,7 +1458,7 @@ public final class ClockRiver {
         }
 
         private boolean readSetting(int most) {
-            int word = tape.word;
+            int word = tape.kind;
             if ((settingsTold >> word & 1) == 1) {
                 return tape.fail(FAULT_TOLD);
             }
@@ -1471,7 +1476,7 @@ public final class ClockRiver {
             } else {
                 told.odds = tape.taken;
             }
-            return tape.takeSign(';');
+            return tape.takeEnd();
         }
 
         private boolean readReach() {
@@ -1488,7 +1493,7 @@ public final class ClockRiver {
             }
             int gate = tape.taken;
             int holds = 0;
-            if (tape.word == W_HOLDS) {
+            if (tape.kind == W_HOLDS) {
                 tape.advance();
                 if (!tape.takeNumber(0, bank)) {
                     return false;
@@ -1496,7 +1501,7 @@ public final class ClockRiver {
                 holds = tape.taken;
             }
             told.reaches.add(newName, bank, gate, holds);
-            return tape.takeSign(';');
+            return tape.takeEnd();
         }
 
         private boolean readMill() {
@@ -1507,10 +1512,10 @@ public final class ClockRiver {
             if (!takeNewName() || !tape.takeWord(W_AT)) {
                 return false;
             }
-            if (!tape.isName()) {
+            if (tape.kind != NAME) {
                 return tape.failToStand();
             }
-            int at = River.placeOf(tape.name, told.reaches.name, told.reaches.count);
+            int at = River.placeOf(tape.value, told.reaches.name, told.reaches.count);
             if (at == NONE) {
                 return tape.fail(FAULT_NAME);
             }
@@ -1519,7 +1524,7 @@ public final class ClockRiver {
                 return false;
             }
             told.mills.add(newName, at, tape.taken);
-            return tape.takeSign(';');
+            return tape.takeEnd();
         }
 
         private boolean readWinder() {
@@ -1532,7 +1537,7 @@ public final class ClockRiver {
             }
             int strength = tape.taken;
             int wage = 1;
-            if (tape.word == W_WAGE) {
+            if (tape.kind == W_WAGE) {
                 tape.advance();
                 if (!tape.takeNumber(0, MOST_WAGE)) {
                     return false;
@@ -1540,17 +1545,17 @@ public final class ClockRiver {
                 wage = tape.taken;
             }
             told.winders.add(newName, strength, wage);
-            return tape.takeSign(';');
+            return tape.takeEnd();
         }
 
         private boolean takeNewName() {
-            if (!tape.isName()) {
+            if (tape.kind != NAME) {
                 return tape.failToStand();
             }
-            if (told.isTaken(tape.name)) {
+            if (told.isTaken(tape.value)) {
                 return tape.fail(FAULT_NAME);
             }
-            newName = tape.name;
+            newName = tape.value;
             tape.advance();
             return true;
         }
@@ -1608,11 +1613,13 @@ public final class ClockRiver {
     }
 
     private static final class WeeksReader {
-        static final int DEEPEST = 3;
+        private static final int DEEPEST = 3;
+        private static final int MOST_ROUNDS = 99;
 
         final Weeks told = new Weeks();
         private Tape tape;
         private River river;
+        private int row;
         private int depth;
         private final int[] begun = new int[DEEPEST];
 
@@ -1624,45 +1631,45 @@ public final class ClockRiver {
             told.forget();
             told.isThere = true;
             // a STEP, or an end, has at least one byte
-            for (int i = 0; i < LONGEST_WEEKS && tape.kind != Tape.AT_END; i++) {
-                boolean taken = tape.word == W_END && depth > 0 ? readEnd() : readStep();
-                if (!taken) {
+            for (int i = 0; i < LONGEST_WEEKS && tape.kind != AT_END; i++) {
+                boolean isBegun = tape.kind == W_END && depth > 0 ? beginEnd() : beginStep();
+                if (!isBegun || !readRest() || !tape.takeEnd()) {
                     return false;
                 }
             }
             return depth == 0 || tape.failToStand();
         }
 
-        private boolean readEnd() {
+        private boolean beginEnd() {
             depth--;
             int beginning = begun[depth];
-            int row = told.addRow(W_END);
+            row = told.addRow(W_END);
             told.mate[row] = beginning;
             told.mate[beginning] = row;
             tape.advance();
-            return tape.takeSign(';');
+            return true;
         }
 
-        private boolean readStep() {
-            int word = tape.word;
+        private boolean beginStep() {
+            int word = tape.kind;
             if (!isStep(word)) {
                 return tape.failToStand();
             }
             if (told.steps >= Weeks.MOST_STEPS) {
                 return tape.fail(FAULT_MANY);
             }
-            boolean begins = word == W_WHEN || word == W_LOOP;
-            if (begins && depth >= DEEPEST) {
+            boolean isDeep = word == W_WHEN || word == W_LOOP;
+            if (isDeep && depth >= DEEPEST) {
                 return tape.fail(FAULT_DEPTH);
             }
-            int row = told.addRow(word);
+            row = told.addRow(word);
             told.steps++;
-            if (begins) {
+            if (isDeep) {
                 begun[depth] = row;
                 depth++;
             }
             tape.advance();
-            return readRest(word, row) && tape.takeSign(';');
+            return true;
         }
 
         private static boolean isStep(int word) {
@@ -1683,59 +1690,56 @@ public final class ClockRiver {
             }
         }
 
-        private boolean readRest(int word, int row) {
-            switch (word) {
+        private boolean readRest() {
+            switch (told.word[row]) {
                 case W_HOUR:
-                    return takeNumber(row, 1, DAY_HOURS);
+                    return takeNumber(1, DAY_HOURS);
                 case W_WIND:
-                    return readWind(row);
+                    return readWind();
                 case W_GATE:
-                    return takeName(row, river.reaches.name, river.reaches.count)
-                            && takeNumber(row, 0, WIDEST_GATE);
+                    return takeName(river.reaches.name, river.reaches.count) && takeNumber(0, WIDEST_GATE);
                 case W_WHEN:
-                    return readTest(row);
+                    return readTest();
                 case W_LOOP:
-                    return takeNumber(row, 1, 99);
+                    return takeNumber(1, MOST_ROUNDS);
                 default:
                     return true;
             }
         }
 
         /** Of a wind, the number 1 is for back. */
-        private boolean readWind(int row) {
-            if (!takeName(row, river.winders.name, river.winders.count)) {
+        private boolean readWind() {
+            if (!takeName(river.winders.name, river.winders.count)) {
                 return false;
             }
-            if (tape.word == W_BACK) {
+            if (tape.kind == W_BACK) {
                 told.number[row] = 1;
                 tape.advance();
             }
             return true;
         }
 
-        private boolean readTest(int row) {
-            int word = tape.word;
-            if (word != W_STORED && word != W_GROUND && word != W_RAINING) {
-                return tape.failToStand();
+        private boolean readTest() {
+            told.test[row] = tape.kind;
+            switch (tape.kind) {
+                case W_STORED:
+                    tape.advance();
+                    return takeName(river.reaches.name, river.reaches.count) && takeComparison()
+                            && takeNumber(0, MOST_WATER);
+                case W_GROUND:
+                    tape.advance();
+                    return takeName(river.mills.name, river.mills.count) && takeComparison()
+                            && takeNumber(0, LAST_HOUR);
+                default:
+                    return tape.takeWord(W_RAINING);
             }
-            told.test[row] = word;
-            tape.advance();
-            if (word == W_STORED) {
-                return takeName(row, river.reaches.name, river.reaches.count)
-                        && takeComparison(row) && takeNumber(row, 0, MOST_WATER);
-            }
-            if (word == W_GROUND) {
-                return takeName(row, river.mills.name, river.mills.count)
-                        && takeComparison(row) && takeNumber(row, 0, LAST_HOUR);
-            }
-            return true;
         }
 
-        private boolean takeName(int row, long[] names, int count) {
-            if (!tape.isName()) {
+        private boolean takeName(long[] names, int count) {
+            if (tape.kind != NAME) {
                 return tape.failToStand();
             }
-            int thing = River.placeOf(tape.name, names, count);
+            int thing = River.placeOf(tape.value, names, count);
             if (thing == NONE) {
                 return tape.fail(FAULT_NAME);
             }
@@ -1744,16 +1748,16 @@ public final class ClockRiver {
             return true;
         }
 
-        private boolean takeComparison(int row) {
-            if (tape.kind != Tape.SIGN || tape.sign == ';') {
+        private boolean takeComparison() {
+            if (tape.kind != SIGN || tape.value == ';') {
                 return tape.failToStand();
             }
-            told.sign[row] = tape.sign;
+            told.sign[row] = (int) tape.value;
             tape.advance();
             return true;
         }
 
-        private boolean takeNumber(int row, int least, int most) {
+        private boolean takeNumber(int least, int most) {
             if (!tape.takeNumber(least, most)) {
                 return false;
             }
@@ -1814,6 +1818,7 @@ public final class ClockRiver {
                     left = 1;
                 } else {
                     steps++;
+                    missed += isDone(row) ? 0 : 1;
                     row = rowBehindStep(row);
                 }
             }
@@ -1840,9 +1845,6 @@ public final class ClockRiver {
                 case W_STOP:
                     return plan.rows;
                 default:
-                    if (!isDone(row)) {
-                        missed++;
-                    }
                     return row + 1;
             }
         }
@@ -1869,6 +1871,7 @@ public final class ClockRiver {
             }
         }
 
+        /** Whether a STEP was done, not MISSED; which STEP is next is told by rowBehindStep(). */
         private boolean isDone(int row) {
             switch (plan.word[row]) {
                 case W_HOUR:
@@ -1884,8 +1887,10 @@ public final class ClockRiver {
                     return turnsTo(true);
                 case W_DRY:
                     return turnsTo(false);
-                default:
+                case W_ANY:
                     return doesAny();
+                default:
+                    return true;
             }
         }
 
@@ -2055,6 +2060,10 @@ public final class ClockRiver {
                     leastWages = wages;
                     System.arraycopy(hands, 0, bestHands, 0, spells);
                 }
+                return;
+            }
+            int hoursLeft = (spells - spell) * SPELL_HOURS;
+            if (ground + hoursLeft * levels[spell].mills.count < neededGround) {
                 return;
             }
             Winders winders = levels[spell].winders;
