@@ -755,7 +755,7 @@ public final class ClockRiver {
         return false;
     }
 
-    /** Callers have a bottom above 0 and a top that is not below 0. */
+    /** Callers have a bottom above 0 and a top that is not below 0, so that no divisor is below 1. */
     private void tellFraction(long top, long bottom) {
         long divisor = Math.max(1, commonDivisor(top, bottom));
         latestTop = top / divisor;
@@ -1937,10 +1937,9 @@ public final class ClockRiver {
             return winds(drawBy(count), false);
         }
 
-        /** Callers have n above 0. */
         private int drawBy(int n) {
             seed = (seed * 2971 + 10799) % 65536;
-            return seed / 8 % n;
+            return n > 0 ? seed / 8 % n : 0;
         }
     }
 

@@ -9,21 +9,24 @@ import com.sun.source.tree.Tree;
 import com.sun.source.tree.VariableTree;
 import com.sun.source.util.JavacTask;
 import com.sun.source.util.SourcePositions;
-import com.sun.source.util.TreeScanner;
+import com.sun.source.util.TreePathScanner;
 import com.sun.source.util.Trees;
 import java.io.IOException;
 import java.nio.file.Path;
 import java.util.EnumSet;
+import java.util.HashMap;
 import java.util.HashSet;
 import java.util.List;
+import java.util.Map;
 import java.util.Set;
+import javax.lang.model.element.Element;
 import javax.lang.model.element.Modifier;
 import javax.tools.JavaCompiler;
 import javax.tools.StandardJavaFileManager;
 import javax.tools.ToolProvider;
 
 /** Rules of ../shared/LANGUAGE.md that can be seen in the source's tree. */
-public final class LanguageTest extends TreeScanner<Void, Void> {
+public final class LanguageTest extends TreePathScanner<Void, Void> {
     private static final Set<Tree.Kind> FORBIDDEN = EnumSet.of(Tree.Kind.TRY, Tree.Kind.THROW, Tree.Kind.CATCH,
             Tree.Kind.SYNCHRONIZED, Tree.Kind.ASSERT, Tree.Kind.LAMBDA_EXPRESSION, Tree.Kind.MEMBER_REFERENCE,
             Tree.Kind.IMPORT, Tree.Kind.PACKAGE, Tree.Kind.ANNOTATION, Tree.Kind.BINDING_PATTERN,
@@ -33,15 +36,21 @@ public final class LanguageTest extends TreeScanner<Void, Void> {
     private static final Set<String> LIBRARY_NAMES = Set.of("System", "Math", "WORDS", "Integer", "Long", "Arrays");
 
     private final CompilationUnitTree unit;
+    private final Trees trees;
     private final SourcePositions positions;
+    /** For each method those that it calls, itself left out: recursion does not count here. */
+    private final Map<Element, Set<Element>> calls = new HashMap<>();
+    private final Map<Element, Integer> depths = new HashMap<>();
+    private Element method;
     private final Check check = new Check();
     private final Set<String> publicNames = new HashSet<>();
     private final Set<String> otherNames = new HashSet<>();
     private int classes;
 
-    private LanguageTest(CompilationUnitTree unit, SourcePositions positions) {
+    private LanguageTest(CompilationUnitTree unit, Trees trees) {
         this.unit = unit;
-        this.positions = positions;
+        this.trees = trees;
+        positions = trees.getSourcePositions();
     }
 
     public static void main(String[] args) throws IOException {
@@ -50,7 +59,8 @@ public final class LanguageTest extends TreeScanner<Void, Void> {
             JavacTask task = (JavacTask) compiler.getTask(null, files, null, List.of("--release", "17"), null,
                     files.getJavaFileObjects(Path.of("src/main/java/ClockRiver.java")));
             CompilationUnitTree unit = task.parse().iterator().next();
-            LanguageTest test = new LanguageTest(unit, Trees.instance(task).getSourcePositions());
+            task.analyze();
+            LanguageTest test = new LanguageTest(unit, Trees.instance(task));
             test.scan(unit, null);
             test.end();
         }
@@ -60,7 +70,25 @@ public final class LanguageTest extends TreeScanner<Void, Void> {
         publicNames.retainAll(otherNames);
         check.due("no other method bears a public one's name: " + publicNames, publicNames.size(), 0);
         check.due("classes, some twelve: " + classes, classes <= 12, true);
+        for (Element called : calls.keySet()) {
+            check.due(called + " goes eight calls deep at most", depthOf(called) <= 8, true);
+        }
         check.end("LanguageTest");
+    }
+
+    private int depthOf(Element called) {
+        Integer known = depths.get(called);
+        if (known != null) {
+            return known;
+        }
+        // a ring of methods would be met here again before it is known
+        depths.put(called, 1000);
+        int deepest = 0;
+        for (Element next : calls.getOrDefault(called, Set.of())) {
+            deepest = Math.max(deepest, depthOf(next));
+        }
+        depths.put(called, deepest + 1);
+        return deepest + 1;
     }
 
     private long line(Tree tree) {
@@ -123,6 +151,8 @@ public final class LanguageTest extends TreeScanner<Void, Void> {
         check.due(tree.getName() + " has seven parameters at most", tree.getParameters().size() <= 7, true);
         long lines = lastLine(tree) - line(tree) + 1;
         check.due(tree.getName() + " is short: " + lines, lines <= 60, true);
+        method = trees.getElement(getCurrentPath());
+        calls.put(method, new HashSet<>());
         return super.visitMethod(tree, nothing);
     }
 
@@ -143,6 +173,10 @@ public final class LanguageTest extends TreeScanner<Void, Void> {
                 && LIBRARY_NAMES.contains(select.getExpression().toString())) {
             check.due("line " + line(tree) + ": " + select + " is of the library",
                     LIBRARY.contains(select.toString()), true);
+        }
+        Element called = trees.getElement(getCurrentPath());
+        if (called != method && calls.containsKey(method)) {
+            calls.get(method).add(called);
         }
         return super.visitMethodInvocation(tree, nothing);
     }

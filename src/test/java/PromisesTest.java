@@ -180,6 +180,12 @@ public final class PromisesTest {
         CHECK.refused("weeks(-1)", x, x.weeks(-1), 5);
         CHECK.refused("weeks(21)", x, x.weeks(21), 5);
         CHECK.taken("weeks(0): no STEPS", x, x.weeks(0), 0);
+        CHECK.due("900 TOKENS are fed", Check.feed(x, ";".repeat(900)), 900);
+        CHECK.refused("900 TOKENS", x, x.river(900), 10);
+        CHECK.due("900 TOKENS, place", x.fault(1), 0);
+        Check.feed(x, "turns 1;" + "x".repeat(892));
+        CHECK.refused("a WORD of 892 letters", x, x.river(900), 10);
+        CHECK.due("a WORD of 892 letters, place", x.fault(1), 8);
     }
 
     private static void riversTaken() {
@@ -549,6 +555,8 @@ public final class PromisesTest {
         CHECK.refused("stillIn(): never", x, x.stillIn(), 8);
         x.bring(2, 1);
         CHECK.refused("dryIn(2): one too late", x, x.dryIn(2), 8);
+        x = Check.riverOf("turns 1;slack 0;reach a bank 500 gate 1 holds 500;reach b bank 500 gate 0;");
+        CHECK.refused("floodIn(1): one too late", x, x.floodIn(1), 8);
         x = Check.riverOf("turns 60;reach a bank 59 gate 0;");
         CHECK.taken("floodIn(0): that which begins", x, x.floodIn(0), 0);
         CHECK.taken("stillIn() by SLACK 1", x, x.stillIn(), 60);
