@@ -827,8 +827,8 @@ public final class PromisesTest {
         Check.weeks(x, "any;wind a;hour 24;any;");
         CHECK.taken("a seventh DAY", x, x.live(0), 4);
         lived("a seventh DAY", x, 2, 24, 0, 1, 0);
-        // draws go on: 47524*2971+10799 = 141204603, left 39739 -> 4967 rest 7 (dry); then 39739*2971+10799
-        // = 118075368, left 45096 -> 5637, odd
+        // draws go on: 47524*2971+10799 = 141204603, left 40059 -> 5007 rest 15 (dry); then 40059*2971+10799
+        // = 119026088, left 12712 -> 1589, odd
         CHECK.taken("the weather by the third draw", x, x.many(8), 0);
         CHECK.taken("WINDER 1 by the fourth", x, x.winder(1, 2), 2);
         x = Check.riverOf("odds 16;");
