@@ -45,6 +45,7 @@ public final class PromisesTest {
         livesLimits();
         means();
         marks();
+        lastCall();
         CHECK.end("PromisesTest");
     }
 
@@ -931,5 +932,15 @@ public final class PromisesTest {
         CHECK.taken("lived() is none either", x, x.lived(1), 0);
         CHECK.refused("back() once more", x, x.back(), 8);
         CHECK.taken("a MARK anew", x, x.mark(), 1);
+    }
+
+    /** An object is used for at most 512 calls: the last of them is as good as the first. */
+    private static void lastCall() {
+        ClockRiver x = Check.riverOf(SMALL);
+        // four feeds and river() were the first five
+        for (int i = 5; i < 511; i++) {
+            x.hour(1);
+        }
+        CHECK.due("the 512th call", x.many(6), 506);
     }
 }
