@@ -5,6 +5,7 @@ import com.sun.source.tree.LiteralTree;
 import com.sun.source.tree.MemberSelectTree;
 import com.sun.source.tree.MethodInvocationTree;
 import com.sun.source.tree.MethodTree;
+import com.sun.source.tree.NewClassTree;
 import com.sun.source.tree.Tree;
 import com.sun.source.tree.VariableTree;
 import com.sun.source.util.JavacTask;
@@ -33,6 +34,7 @@ public final class LanguageTest extends TreePathScanner<Void, Void> {
             Tree.Kind.FLOAT_LITERAL, Tree.Kind.DOUBLE_LITERAL);
     private static final Set<String> LIBRARY = Set.of("System.arraycopy", "Math.min", "Math.max", "WORDS.length",
             "WORDS.charAt");
+    private static final Set<String> PRIMITIVES = Set.of("int", "long", "byte", "boolean");
     private static final Set<String> LIBRARY_NAMES = Set.of("System", "Math", "WORDS", "Integer", "Long", "Arrays");
 
     private final CompilationUnitTree unit;
@@ -45,6 +47,8 @@ public final class LanguageTest extends TreePathScanner<Void, Void> {
     private final Check check = new Check();
     private final Set<String> publicNames = new HashSet<>();
     private final Set<String> otherNames = new HashSet<>();
+    private final Set<String> ownClasses = new HashSet<>();
+    private final Set<String> typesUsed = new HashSet<>();
     private int classes;
 
     private LanguageTest(CompilationUnitTree unit, Trees trees) {
@@ -73,7 +77,17 @@ public final class LanguageTest extends TreePathScanner<Void, Void> {
         for (Element called : calls.keySet()) {
             check.due(called + " goes eight calls deep at most", depthOf(called) <= 8, true);
         }
+        for (String type : typesUsed) {
+            check.due("the type " + type + " is one that rule 3 leaves", isType(type), true);
+        }
         check.end("LanguageTest");
+    }
+
+    private boolean isType(String type) {
+        String of = type.replace("[]", "");
+        int dimensions = (type.length() - of.length()) / 2;
+        return dimensions <= (PRIMITIVES.contains(of) ? 2 : 1)
+                && (PRIMITIVES.contains(of) || ownClasses.contains(of) || type.equals("String"));
     }
 
     private int depthOf(Element called) {
@@ -110,6 +124,7 @@ public final class LanguageTest extends TreePathScanner<Void, Void> {
     @Override
     public Void visitClass(ClassTree tree, Void nothing) {
         classes++;
+        ownClasses.add(tree.getSimpleName().toString());
         Set<Modifier> has = tree.getModifiers().getFlags();
         boolean isFace = tree.getSimpleName().contentEquals("ClockRiver");
         check.due(tree.getSimpleName() + " is as it must be",
@@ -154,6 +169,22 @@ public final class LanguageTest extends TreePathScanner<Void, Void> {
         method = trees.getElement(getCurrentPath());
         calls.put(method, new HashSet<>());
         return super.visitMethod(tree, nothing);
+    }
+
+    @Override
+    public Void visitVariable(VariableTree tree, Void nothing) {
+        typesUsed.add(tree.getType().toString());
+        return super.visitVariable(tree, nothing);
+    }
+
+    @Override
+    public Void visitNewClass(NewClassTree tree, Void nothing) {
+        typesUsed.add(tree.getIdentifier().toString());
+        boolean isInCall = method != null && !method.getSimpleName().contentEquals("<init>");
+        boolean isOfField = getCurrentPath().getParentPath().getLeaf() instanceof VariableTree
+                && getCurrentPath().getParentPath().getParentPath().getLeaf() instanceof ClassTree;
+        check.due("line " + line(tree) + ": objects are made with the object alone", isOfField || !isInCall, true);
+        return super.visitNewClass(tree, nothing);
     }
 
     @Override
